@@ -143,6 +143,8 @@ public final class NetTest {
         Check.due("held the other way too", x.at(1, 5), 1);
         Check.due("what is on the wire goes on", x.message(0, 5), 3);
         Check.due("and the other way", x.message(1, 5), 3);
+        Check.due("those held are where they were as others came", x.message(2, 4), 0);
+        Check.due("the other way as well", x.message(3, 4), 1);
         x.go(1);
         Check.due("up in minute 4", x.at(0, 5), 0);
         Check.due("up the other way", x.at(1, 5), 0);
@@ -150,6 +152,8 @@ public final class NetTest {
         Check.due("not there yet", x.message(2, 5), -1);
         x.go(1);
         Check.due("there three minutes later", x.message(2, 5), 7);
+        Check.due("the one READ before stays READ", x.message(0, 5), 3);
+        Check.due("and stays there", x.message(0, 4), 1);
     }
 
     private static void lastToldSpanHolds() {
